@@ -39,7 +39,7 @@ public final class InferResolve {
     private final Row joined = new Row(64);
     private final Kinds kinds = new Kinds();
     private final Kinds spareKinds = new Kinds();
-    private final Reader reader = new Reader(tape);
+    private final Reader reader = new Reader(tape, kinds);
     private final Writer writer = new Writer(kinds);
     private final Bounds bounds = new Bounds(kinds);
     private final Order order = new Order(bounds, writer);
@@ -72,7 +72,7 @@ public final class InferResolve {
         boolean isRight = reader.readKinds(spareKinds);
         endText();
         if (!isRight) {
-            return FAULT_BASE - reader.place();
+            return FAULT_BASE - reader.faultPlace();
         }
         kinds.takeFrom(spareKinds);
         forgetBounds();
@@ -107,13 +107,13 @@ public final class InferResolve {
         boolean isRight = reader.readPair(kinds, variables, true);
         endText();
         if (!isRight) {
-            return FAULT_BASE - reader.place();
+            return FAULT_BASE - reader.faultPlace();
         }
         reducer.start(false);
         if (reader.sign() == EQUAL) {
-            reducer.equal(reader.codes(), reader.start(0), reader.codes(), reader.start(1));
+            reducer.reduceEqual(reader.codes(), reader.start(0), reader.codes(), reader.start(1), 1);
         } else {
-            reducer.below(reader.codes(), reader.start(0), reader.codes(), reader.start(1));
+            reducer.reduceBelow(reader.codes(), reader.start(0), reader.codes(), reader.start(1));
         }
         state = reducer.isFalse() ? FALSE : reducer.isLong() ? CUT : OPEN;
         return bounds.count();
@@ -201,7 +201,7 @@ public final class InferResolve {
         boolean isRight = reader.readTypes(kinds);
         endText();
         if (!isRight) {
-            return FAULT_BASE - reader.place();
+            return FAULT_BASE - reader.faultPlace();
         }
         joined.cut(0);
         if (!lattice.putJoin(reader.codes(), reader.starts(), joined)) {
@@ -216,7 +216,7 @@ public final class InferResolve {
         boolean isRight = reader.readPair(kinds, 0, false);
         endText();
         if (!isRight) {
-            return FAULT_BASE - reader.place();
+            return FAULT_BASE - reader.faultPlace();
         }
         Row codes = reader.codes();
         return kinds.isAncestor(codes, reader.start(0), codes, reader.start(1)) ? 1 : 0;
@@ -224,7 +224,7 @@ public final class InferResolve {
 
     private void endText() {
         tape.cut(0);
-        latestFault = reader.fault();
+        latestFault = reader.faultNumber();
     }
 
     private void forgetBounds() {
@@ -303,7 +303,8 @@ public final class InferResolve {
                 return false;
             }
             for (int i = start; i < end; i++) {
-                if (get(i) != other.get(otherStart + i - start)) {
+                int j = otherStart + i - start;
+                if (i < 0 || i >= size || j < 0 || j >= other.size || cells[i] != other.cells[j]) {
                     return false;
                 }
             }
@@ -317,6 +318,14 @@ public final class InferResolve {
                 }
             }
             return false;
+        }
+
+        int sum(int start, int end) {
+            int all = 0;
+            for (int i = start; i >= 0 && i < end && i < size; i++) {
+                all = 31 * all + cells[i];
+            }
+            return all ^ all >>> 6 ^ all >>> 12;
         }
 
         int variablesIn(int start, int end) {
@@ -484,7 +493,8 @@ public final class InferResolve {
                 return false;
             }
             for (int i = 0; i < lengths[kind]; i++) {
-                if (letters[kind * LONGEST_NAME + i] != from.get(start + i)) {
+                int j = start + i;
+                if (j < 0 || j >= from.size || letters[kind * LONGEST_NAME + i] != from.cells[j]) {
                     return false;
                 }
             }
@@ -509,8 +519,8 @@ public final class InferResolve {
         int over(Row row, int at) {
             int open = 1;
             int i = at;
-            while (open > 0 && i < row.size()) {
-                int code = row.get(i);
+            while (open > 0 && i >= 0 && i < row.size) {
+                int code = row.cells[i];
                 open += (code >= 0 && code < NUMBERS ? parts[code] : 0) - 1;
                 i++;
             }
@@ -530,8 +540,8 @@ public final class InferResolve {
         int length(Row row, int at) {
             int end = over(row, at);
             int names = 0;
-            for (int i = at; i < end; i++) {
-                if (!isMeet(row.get(i))) {
+            for (int i = at; i >= 0 && i < end && i < row.size; i++) {
+                if (row.cells[i] < MEET) {
                     names++;
                 }
             }
@@ -659,15 +669,16 @@ public final class InferResolve {
         private int fault;
         private int place;
 
-        Reader(Row tape) {
+        Reader(Row tape, Kinds kinds) {
             this.tape = tape;
+            this.kinds = kinds;
         }
 
-        int fault() {
+        int faultNumber() {
             return fault;
         }
 
-        int place() {
+        int faultPlace() {
             return place;
         }
 
@@ -938,14 +949,13 @@ public final class InferResolve {
 
         private int nameOver(int start) {
             int i = start;
-            while (i < tape.size() && isLetterOrDigit(tape.get(i))) {
-                i++;
+            boolean isPart = true;
+            while (isPart && i >= 0 && i < tape.size) {
+                int c = tape.cells[i];
+                isPart = c >= 'A' && c <= 'Z' || c >= 'a' && c <= 'z' || c >= '0' && c <= '9';
+                i += isPart ? 1 : 0;
             }
             return i;
-        }
-
-        private static boolean isLetterOrDigit(int c) {
-            return c >= 'A' && c <= 'Z' || c >= 'a' && c <= 'z' || c >= '0' && c <= '9';
         }
 
         private static boolean isSign(int c) {
@@ -1080,7 +1090,7 @@ public final class InferResolve {
             changes++;
         }
 
-        /** The BOUND is there behind this, if it says something. */
+        /** The BOUND is there behind this, unless it says nothing; of = the VARIABLE comes first. */
         void add(int sign, Row a, int aAt, Row b, int bAt) {
             int s = a.get(aAt);
             int t = b.get(bAt);
@@ -1088,16 +1098,24 @@ public final class InferResolve {
                 return;
             }
             boolean isTurned = sign == EQUAL && isVariable(t) && (!isVariable(s) || t < s);
+            Row first = isTurned ? b : a;
+            Row second = isTurned ? a : b;
+            int firstAt = isTurned ? bAt : aAt;
+            int secondAt = isTurned ? aAt : bAt;
             int left = codes.size();
-            codes.append(isTurned ? b : a, isTurned ? bAt : aAt,
-                    isTurned ? kinds.over(b, bAt) : kinds.over(a, aAt));
+            codes.append(first, firstAt, kinds.over(first, firstAt));
             int right = codes.size();
-            codes.append(isTurned ? a : b, isTurned ? aAt : bAt,
-                    isTurned ? kinds.over(a, aAt) : kinds.over(b, bAt));
-            int chain = chainOf(sign, left);
-            if (isKnown(chain, sign, left)) {
-                codes.cut(left);
-                return;
+            codes.append(second, secondAt, kinds.over(second, secondAt));
+            // chained by a sum of their numbers, so that few BOUNDS are compared
+            int chain = codes.sum(left, codes.size()) & CHAINS - 1;
+            int known = chains[chain];
+            for (int n = 0; n < signs.size() && known >= 0; n++) {
+                if (signs.get(known) == sign
+                        && codes.isSame(lefts.get(known), ends.get(known), codes, left, codes.size())) {
+                    codes.cut(left);
+                    return;
+                }
+                known = links.get(known);
             }
             links.put(chains[chain]);
             chains[chain] = signs.size();
@@ -1106,26 +1124,6 @@ public final class InferResolve {
             rights.put(right);
             ends.put(codes.size());
             changes++;
-        }
-
-        /** BOUNDS are chained by a number made of all of theirs, so that few are compared. */
-        private int chainOf(int sign, int left) {
-            int sum = sign;
-            for (int i = left; i < codes.size(); i++) {
-                sum = 31 * sum + codes.get(i);
-            }
-            return (sum ^ sum >>> 6 ^ sum >>> 12) & CHAINS - 1;
-        }
-
-        private boolean isKnown(int chain, int sign, int left) {
-            int b = chains[chain];
-            for (int n = 0; n < signs.size() && b >= 0; n++) {
-                if (signs.get(b) == sign && codes.isSame(left(b), over(b), codes, left, codes.size())) {
-                    return true;
-                }
-                b = links.get(b);
-            }
-            return false;
         }
     }
 
@@ -1192,7 +1190,8 @@ public final class InferResolve {
         private int rankOf(int b) {
             int low = 0;
             int high = ranks.size();
-            while (low < high) {
+            // each turn leaves at most half of what lay between
+            for (int turn = 0; turn < 32 && low < high; turn++) {
                 int middle = (low + high) / 2;
                 if (compare(ranks.get(middle), b) < 0) {
                     low = middle + 1;
@@ -1253,16 +1252,23 @@ public final class InferResolve {
             isLong = true;
         }
 
-        private boolean areLong(Row a, int aAt, Row b, int bAt) {
-            return kinds.length(a, aAt) + kinds.length(b, bAt) > LONGEST;
+        /** So many TYPES, one behind the other in both rows, two by two. */
+        void reduceEqual(Row a, int aAt, Row b, int bAt, int count) {
+            int i = aAt;
+            int j = bAt;
+            for (int n = 0; n < count; n++) {
+                if (kinds.length(a, i) + kinds.length(b, j) > LONGEST) {
+                    isLong = true;
+                } else {
+                    walkBoth(a, i, b, j);
+                }
+                i = kinds.over(a, i);
+                j = kinds.over(b, j);
+            }
         }
 
-        /** Goes through both at once: as long as the KINDS are the same, their ARGUMENTS lie next. */
-        void equal(Row a, int aAt, Row b, int bAt) {
-            if (areLong(a, aAt, b, bAt)) {
-                isLong = true;
-                return;
-            }
+        /** As long as the KINDS are the same, their ARGUMENTS lie next in both. */
+        private void walkBoth(Row a, int aAt, Row b, int bAt) {
             int open = 1;
             int i = aAt;
             int j = bAt;
@@ -1288,12 +1294,12 @@ public final class InferResolve {
             }
         }
 
-        void below(Row a, int aAt, Row b, int bAt) {
-            if (areLong(a, aAt, b, bAt)) {
+        void reduceBelow(Row a, int aAt, Row b, int bAt) {
+            int code = b.get(bAt);
+            if (kinds.length(a, aAt) + kinds.length(b, bAt) > LONGEST) {
                 isLong = true;
                 return;
             }
-            int code = b.get(bAt);
             if (isVariable(a.get(aAt)) || isVariable(code)) {
                 bounds.add(BELOW, a, aAt, b, bAt);
                 return;
@@ -1301,29 +1307,18 @@ public final class InferResolve {
             int members = isMeet(code) ? kinds.partsOf(code) : 1;
             int member = isMeet(code) ? bAt + 1 : bAt;
             for (int n = 0; n < members; n++) {
-                int holder = kinds.holder(a, aAt, b.get(member));
+                int kind = b.get(member);
+                int holder = kinds.holder(a, aAt, kind);
                 if (holder < 0) {
                     isFalse = true;
-                } else if (kinds.ancestorLength(a, holder, b.get(member)) > LONGEST) {
+                } else if (kinds.ancestorLength(a, holder, kind) > LONGEST) {
                     isLong = true;
                 } else {
                     ancestor.cut(0);
-                    kinds.putAncestor(a, holder, b.get(member), ancestor);
-                    equalArguments(ancestor, 0, b, member);
+                    kinds.putAncestor(a, holder, kind, ancestor);
+                    reduceEqual(ancestor, 1, b, member + 1, kinds.partsOf(kind));
                 }
                 member = kinds.over(b, member);
-            }
-        }
-
-        /** The ARGUMENTS of two TYPES of one KIND, two by two. */
-        void equalArguments(Row a, int aAt, Row b, int bAt) {
-            int count = kinds.partsOf(a.get(aAt));
-            int i = aAt + 1;
-            int j = bAt + 1;
-            for (int n = 0; n < count; n++) {
-                equal(a, i, b, j);
-                i = kinds.over(a, i);
-                j = kinds.over(b, j);
             }
         }
     }
@@ -1336,7 +1331,7 @@ public final class InferResolve {
         private final Kinds kinds;
         private final Bounds bounds;
         private final Reducer reducer;
-        private final Row equals = new Row(32);
+        private final Row sames = new Row(32);
         private final Row lowers = new Row(32);
         private final Row uppers = new Row(32);
         private final Row filled = new Row(64);
@@ -1365,7 +1360,7 @@ public final class InferResolve {
                 reducer.start(beganLong);
                 for (int variable = 0; variable < variables; variable++) {
                     sortOut(VARIABLE + variable, before);
-                    pairEquals();
+                    pairSames();
                     pairLowers();
                     pairUppers();
                     fillIn(VARIABLE + variable, before);
@@ -1386,30 +1381,30 @@ public final class InferResolve {
 
         /** What the VARIABLE is told to be, to be above, and to be below. */
         private void sortOut(int variable, int before) {
-            equals.cut(0);
+            sames.cut(0);
             lowers.cut(0);
             uppers.cut(0);
             for (int b = 0; b < before; b++) {
                 if (bounds.leftCode(b) == variable) {
-                    (bounds.sign(b) == EQUAL ? equals : uppers).put(bounds.right(b));
+                    (bounds.sign(b) == EQUAL ? sames : uppers).put(bounds.right(b));
                 }
                 if (bounds.rightCode(b) == variable) {
-                    (bounds.sign(b) == EQUAL ? equals : lowers).put(bounds.left(b));
+                    (bounds.sign(b) == EQUAL ? sames : lowers).put(bounds.left(b));
                 }
             }
         }
 
-        private void pairEquals() {
+        private void pairSames() {
             Row codes = bounds.codes();
-            for (int i = 0; i < equals.size(); i++) {
-                for (int j = i; j < equals.size(); j++) {
-                    reducer.equal(codes, equals.get(i), codes, equals.get(j));
+            for (int i = 0; i < sames.size(); i++) {
+                for (int j = i; j < sames.size(); j++) {
+                    reducer.reduceEqual(codes, sames.get(i), codes, sames.get(j), 1);
                 }
                 for (int j = 0; j < uppers.size(); j++) {
-                    reducer.below(codes, equals.get(i), codes, uppers.get(j));
+                    reducer.reduceBelow(codes, sames.get(i), codes, uppers.get(j));
                 }
                 for (int j = 0; j < lowers.size(); j++) {
-                    reducer.below(codes, lowers.get(j), codes, equals.get(i));
+                    reducer.reduceBelow(codes, lowers.get(j), codes, sames.get(i));
                 }
             }
         }
@@ -1418,7 +1413,7 @@ public final class InferResolve {
             Row codes = bounds.codes();
             for (int i = 0; i < lowers.size(); i++) {
                 for (int j = 0; j < uppers.size(); j++) {
-                    reducer.below(codes, lowers.get(i), codes, uppers.get(j));
+                    reducer.reduceBelow(codes, lowers.get(i), codes, uppers.get(j));
                 }
             }
         }
@@ -1450,33 +1445,44 @@ public final class InferResolve {
                 second.cut(0);
                 kinds.putAncestor(codes, sHolder, kind, first);
                 kinds.putAncestor(codes, tHolder, kind, second);
-                reducer.equalArguments(first, 0, second, 0);
+                reducer.reduceEqual(first, 1, second, 1, kinds.partsOf(kind));
             }
         }
 
         /** Puts what the VARIABLE is into the BOUNDS in which it stands within an ARGUMENT. */
         private void fillIn(int variable, int before) {
             Row codes = bounds.codes();
-            for (int i = 0; i < equals.size(); i++) {
-                int start = equals.get(i);
+            for (int i = 0; i < sames.size(); i++) {
+                int start = sames.get(i);
                 int end = kinds.over(codes, start);
                 if (codes.variablesIn(start, end) != 0) {
                     continue;
                 }
                 for (int b = 0; b < before; b++) {
-                    if (isWithin(variable, bounds.left(b), bounds.right(b))
-                            || isWithin(variable, bounds.right(b), bounds.over(b))) {
-                        tellFilled(b, variable, start, end);
+                    if (!isWithin(variable, b)) {
+                        continue;
+                    }
+                    int right = putFilled(b, variable, start, end);
+                    if (bounds.sign(b) == EQUAL) {
+                        reducer.reduceEqual(filled, 0, filled, right, 1);
+                    } else {
+                        reducer.reduceBelow(filled, 0, filled, right);
                     }
                 }
             }
         }
 
-        private boolean isWithin(int variable, int start, int end) {
-            return end - start > 1 && bounds.codes().has(variable, start, end);
+        /** Whether it stands within an ARGUMENT: on a side where it is not alone. */
+        private boolean isWithin(int variable, int b) {
+            int left = bounds.left(b);
+            int right = bounds.right(b);
+            int over = bounds.over(b);
+            return right - left > 1 && bounds.codes().has(variable, left, right)
+                    || over - right > 1 && bounds.codes().has(variable, right, over);
         }
 
-        private void tellFilled(int b, int variable, int start, int end) {
+        /** Where the right side begins of the BOUND with what lies from start to end for the VARIABLE. */
+        private int putFilled(int b, int variable, int start, int end) {
             Row codes = bounds.codes();
             int filledRight = 0;
             filled.cut(0);
@@ -1490,11 +1496,7 @@ public final class InferResolve {
                     filled.put(codes.get(i));
                 }
             }
-            if (bounds.sign(b) == EQUAL) {
-                reducer.equal(filled, 0, filled, filledRight);
-            } else {
-                reducer.below(filled, 0, filled, filledRight);
-            }
+            return filledRight;
         }
     }
 
@@ -1755,7 +1757,7 @@ public final class InferResolve {
         void tellChosen(Reducer reducer) {
             for (int i = 0; i < chosenStarts.size(); i++) {
                 int start = chosenStarts.get(i);
-                reducer.equal(chosen, start, chosen, start + 1);
+                reducer.reduceEqual(chosen, start, chosen, start + 1, 1);
             }
         }
     }
