@@ -549,7 +549,8 @@ public final class InferResolve {
         }
 
         private int place(int kind, int ancestor) {
-            return places[kind * MOST_KINDS + ancestor];
+            int i = kind * MOST_KINDS + ancestor;
+            return i >= 0 && i < places.length ? places[i] : 0;
         }
 
         private int mask(int kind) {

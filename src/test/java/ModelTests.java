@@ -47,7 +47,8 @@ public final class ModelTests {
         "below fault 1", "below fault 2", "below fault 4", "below fault 5",
         "close 0", "close 1", "close 2", "close -4", "bound false", "bound long", "step fails, no type",
         "step fails, closing", "step 0", "step -4", "solution with &", "join with &", "join none",
-        "bound with & within", "set of 2", "set of 3", "below 0", "below 1", "throws gives Run",
+        "bound with & within", "bound with & below", "bound with & above", "join of &", "meeting of &",
+        "set of 2", "set of 3", "below 0", "below 1", "throws gives Run",
     };
 
     private static void note(String what) {
@@ -92,13 +93,13 @@ public final class ModelTests {
             return true;
         }
 
-        Type with(char which, int place, Type u) {
-            if (form == which && number == place) {
+        Type with(int variable, Type u) {
+            if (form == 'v' && number == variable) {
                 return u;
             }
             List<Type> others = new ArrayList<>();
             for (Type t : args) {
-                others.add(t.with(which, place, u));
+                others.add(t.with(variable, u));
             }
             return new Type(form, number, others);
         }
@@ -373,13 +374,11 @@ public final class ModelTests {
             }
             all.add(t);
             for (Type parent : known.get(t.number).parents) {
-                Type p = parent;
-                List<Type> args = new ArrayList<>();
-                // the ARGUMENTS may hold PARAMETERS of another KIND, so all are put in at once
-                addAncestors(known, fill(p, t.args), all);
+                addAncestors(known, fill(parent, t.args), all);
             }
         }
 
+        /** All at once: the ARGUMENTS may hold PARAMETERS, of another KIND. */
         static Type fill(Type t, List<Type> args) {
             if (t.form == 'p') {
                 return args.get(t.number);
@@ -446,6 +445,9 @@ public final class ModelTests {
             if (new LinkedHashSet<>(types).size() == 1) {
                 return types.get(0);
             }
+            if (types.stream().anyMatch(t -> t.form == '&')) {
+                note("join of &");
+            }
             Set<Integer> shared = new TreeSet<>();
             for (int k = 0; k < kinds.size(); k++) {
                 boolean all = true;
@@ -491,6 +493,9 @@ public final class ModelTests {
         }
 
         Type meeting(List<Type> types) {
+            if (types.size() > 1 && types.stream().anyMatch(t -> t.form == '&')) {
+                note("meeting of &");
+            }
             Set<Type> all = new LinkedHashSet<>();
             for (Type t : types) {
                 all.addAll(t.form == '&' ? t.args : List.of(t));
@@ -591,7 +596,7 @@ public final class ModelTests {
                 below(cLower, bUpper);
             }
             if (bEqual != null && bEqual.isProper() && (c.s.hasWithin(i) || c.t.hasWithin(i))) {
-                reduce(new Bound(c.isEqual, c.s.with('v', i, bEqual), c.t.with('v', i, bEqual)));
+                reduce(new Bound(c.isEqual, c.s.with(i, bEqual), c.t.with(i, bEqual)));
             }
             if (bUpper != null && cUpper != null && !bUpper.isVariable() && !cUpper.isVariable()) {
                 for (int k = 0; k < kinds.size(); k++) {
@@ -805,7 +810,14 @@ public final class ModelTests {
             if (k < 0 || k >= bounds.size()) {
                 return -1;
             }
-            written = write(inOrder().get(k));
+            Bound bound = inOrder().get(k);
+            written = write(bound);
+            if (!bound.isEqual && bound.s.form == '&' && bound.t.isVariable()) {
+                note("bound with & below");
+            }
+            if (!bound.isEqual && bound.t.form == '&') {
+                note("bound with & above");
+            }
             if (written.matches(".*<.*&.*>.*")) {
                 note("bound with & within");
             }
@@ -975,10 +987,46 @@ public final class ModelTests {
             check("fresh()", real.fresh(), model.fresh());
             secretKinds = null;
             manyVariables();
-            manyVariables();
+            if (one(2) == 0) {
+                manyVariables();
+            }
             int count = 1 + one(12) + one(12);
             for (int i = 0; i < count && model.state == 0; i++) {
                 bound();
+            }
+            if (one(3) != 0) {
+                close();
+            }
+            for (int i = 0; i < 7 && model.state == 0; i++) {
+                step();
+                look();
+            }
+            if (one(2) == 0) {
+                secondPart();
+            }
+        }
+
+        /** More VARIABLES, told of by those that are SOLVED: so MEETS come above and below these. */
+        void secondPart() {
+            int old = model.variables.size();
+            if (model.state != 0 || old == 0 || old == 6) {
+                return;
+            }
+            manyVariables();
+            int count = 1 + one(6);
+            boolean isOneWay = one(2) == 0;
+            boolean isFromBelow = one(2) == 0;
+            for (int i = 0; i < count && model.state == 0; i++) {
+                String s = "$" + one(old);
+                String t = "$" + (one(3) == 0 || model.variables.size() == old
+                        ? one(model.variables.size()) : old + one(model.variables.size() - old));
+                if (one(3) == 0) {
+                    s = type(isOneWay ? 0 : one(2), true, isOneWay ? 0 : 20);
+                }
+                boolean isUpward = isOneWay ? isFromBelow : one(2) == 0;
+                boolean isEqual = !isOneWay && one(6) == 0;
+                feedText(isEqual ? s + "=" + t : isUpward ? s + ":" + t : t + ":" + s);
+                check("bound()", real.bound(), model.bound());
             }
             if (one(3) != 0) {
                 close();
@@ -1212,8 +1260,8 @@ public final class ModelTests {
                 return text;
             }
             StringBuilder b = new StringBuilder(text);
-            String[] pieces = {"<", ">", ",", ";", ":", "=", "$0", "$5", "$12", "A", "A<A>", "Zz", "Abcdefgh", "Abcdefghi",
-                "&", "%", " ", "  ", "$", "$6", "a", "0", "Object", "Run", "\u00ff", "T"};
+            String[] pieces = {"<", ">", ",", ";", ":", "=", "$0", "$5", "$12", "A", "A<A>", "Zz", "Abcdefgh",
+                "Abcdefghi", "&", "%", " ", "  ", "$", "$6", "a", "0", "Object", "Run", "\u00ff", "T"};
             int count = 1 + one(2);
             for (int i = 0; i < count; i++) {
                 int at = one(b.length() + 1);
@@ -1272,7 +1320,8 @@ public final class ModelTests {
             b.append(name);
             List<String> own = new ArrayList<>();
             for (int p = 0; p < parameters; p++) {
-                own.add(one(90) == 0 ? "Object" : one(90) == 0 ? name : one(90) == 0 ? "T" : "TUVW".substring(p, p + 1));
+                String usual = "TUVW".substring(p, p + 1);
+                own.add(one(90) == 0 ? "Object" : one(90) == 0 ? name : one(90) == 0 ? "T" : usual);
                 b.append(p == 0 ? "<" : ",").append(own.get(p));
             }
             b.append(parameters > 0 ? ">" : "");
@@ -1316,7 +1365,8 @@ public final class ModelTests {
         }
 
         String nameOf(int k) {
-            String[] odd = {"A", "Ab", "A0", "B", "B9", "Bz", "BZ", "Comp", "Coll", "List", "Long1234", "M", "N", "Num", "O", "P", "Q", "R", "S"};
+            String[] odd = {"A", "Ab", "A0", "B", "B9", "Bz", "BZ", "Comp", "Coll", "List", "Long1234",
+                "M", "N", "Num", "O", "P", "Q", "R", "S"};
             return odd[k % odd.length];
         }
 
@@ -1357,7 +1407,7 @@ public final class ModelTests {
             return b.append(arity > 0 ? ">" : "").toString();
         }
 
-        /** A TYPE like this one, with ANCESTORS of it as likely as anything. */
+        /** Two TYPES; of PROPER ones the second is often an ANCESTOR of the first. */
         String pair(String sign, boolean hasVariables) {
             int depth = one(15) == 0 ? 5 : one(3);
             String s = hasVariables && one(3) != 0 ? type(0, true, 100) : type(depth, hasVariables, 40);

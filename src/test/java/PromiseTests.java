@@ -32,6 +32,7 @@ public final class PromiseTests {
         new PromiseTests().stepThrows();
         new PromiseTests().stepFails();
         new PromiseTests().stepMeets();
+        new PromiseTests().stepOverMeets();
         new PromiseTests().solution();
         new PromiseTests().join();
         new PromiseTests().joinFaults();
@@ -500,6 +501,13 @@ public final class PromiseTests {
         anew(3, "U<T<Run,Run,Run>>:T<$0,$1,$2>");
         due("28", all(), "");
         due("CUT", x.told(3), InferResolve.CUT);
+        // P<U<n>, n>: 2 + 2n NAMES; n = 11 makes 24, n = 12 makes 26
+        anew(2, "V<" + eleven + ">:P<$0,$1>");
+        due("24", x.told(2), 2);
+        due("OPEN", x.told(3), InferResolve.OPEN);
+        anew(2, "V<" + twelve + ">:P<$0,$1>");
+        due("26", x.told(2), 0);
+        due("CUT", x.told(3), InferResolve.CUT);
         anew(3, "U<T<Run,Run,Run>>:Object");
         due("Object is short", x.told(3), InferResolve.OPEN);
         anew(3, "U<T<Run,Run,Run>>:P<$0,$1>");
@@ -515,6 +523,16 @@ public final class PromiseTests {
                 String text = "$" + i + (k == 0 ? ":Run" : k == 1 ? "=Run" : k == 2 ? ":Throw" : ":Except");
                 due(text, tape(text).bound(), 4 * i + k + 1);
             }
+        }
+        due("23", x.told(2), 23);
+        due("24", tape("$5:Except").bound(), 24);
+        due("no 25th", tape("$0=$5").bound(), InferResolve.STATE);
+        due("the tape stays", x.told(5), 5);
+        due("a text that FAULTS empties it", x.below(), -10);
+        due("empty", x.told(5), 0);
+        anew(6);
+        for (int i = 0; i < 23; i++) {
+            tape("$" + i / 4 + (i % 4 == 0 ? ":Run" : i % 4 == 1 ? "=Run" : i % 4 == 2 ? ":Throw" : ":Except")).bound();
         }
         due("23, then two at once", tape("M<$0,$1>=M<L<Run>,L<Run>>").bound(), 25);
         tape("$0=$1");
@@ -601,11 +619,25 @@ public final class PromiseTests {
         closed(1, 2, "$0=" + thirteen, "$0=" + thirteen);
         closed(1, 2, "$0:P<" + thirteen + ",I>", "$0:P<" + thirteen + ",I>");
         closed(1, 0, "$0:" + thirteen, "$0:" + thirteen);
+        // nothing comes of two with one ANCESTOR that is LONG; of 24 NAMES it is not
+        kinds("P<A,B>;T<A,B,C>;I;J;W<X>:P<I,P<X,X>>;");
+        String ten = "T<I,T<I,I,I>,T<I,I,I>>";
+        String eleven = "T<P<I,I>,P<I,I>,T<I,I,I>>";
+        closed(3, 2, "$0:P<$1,$2> $0:W<" + eleven + ">", "$0:P<$1,$2>", "$0:W<" + eleven + ">");
+        anew(3, "$0:P<$1,$2>", "$0:W<" + ten + ">");
+        due("23 NAMES, but 21 + 21 are LONG", x.close(), InferResolve.CUT);
+        due("what came all the same", all(), "$1=I $2=P<" + ten + "," + ten + "> $0:P<$1,$2> $0:W<" + ten + ">");
+        kinds("P<A,B>;T<A,B,C>;I;J;W<X>:T<X,X,P<X,I>>;");
+        String seven = "T<I,T<I,I,I>,I>";
+        closed(1, 0, "$0:W<" + seven + ">", "$0:W<" + seven + ">");
+        closed(1, 2, "$0:W<P<" + seven + ",I>>", "$0:W<P<" + seven + ",I>>");
+        kinds("P<A,B>;T<A,B,C>;I;J;");
         closed(1, 0, thirteen + ":$0", thirteen + ":$0");
         closed(2, 1, "$0=" + thirteen + " $1=I $1=J", "$0=" + thirteen, "$1=I", "$1=J");
         due("not OPEN", x.close(), InferResolve.STATE);
         // six VARIABLES that are all the same: 15 with =, and six for each TYPE below them
-        String[] told = {"$0=$1", "$1=$2", "$2=$3", "$3=$4", "$4=$5", "I:$0", "J:$0", "Run:$0", "Throw:$0", "Except:$0"};
+        String[] told = {"$0=$1", "$1=$2", "$2=$3", "$3=$4", "$4=$5",
+            "I:$0", "J:$0", "Run:$0", "Throw:$0", "Except:$0"};
         anew(6, told);
         due("15 + 30", x.close(), InferResolve.OPEN);
         due("45", x.told(2), 45);
@@ -614,6 +646,17 @@ public final class PromiseTests {
         due("15 + 36", x.close(), InferResolve.CUT);
         due("more than 48", x.told(2) > 48, true);
         due("STATE", x.close(), InferResolve.STATE);
+        // five that are the same have 10 with = and 5 for each of seven TYPES; $5 has three of its own
+        kinds("I;J;K;");
+        String[] fortyEight = {"$0=$1", "$1=$2", "$2=$3", "$3=$4", "I:$0", "J:$0", "K:$0", "Run:$0", "Throw:$0",
+            "Except:$0", "Object:$0", "$5:I", "$5:J", "$5:K"};
+        anew(6, fortyEight);
+        due("close", x.close(), InferResolve.OPEN);
+        due("48", x.told(2), 48);
+        anew(6, fortyEight);
+        due("one more", tape("$5:Run").bound(), 15);
+        due("close", x.close(), InferResolve.CUT);
+        due("49", x.told(2), 49);
         // FALSE, and all else that came
         closed(2, 1, "$0=$1 $0=I $0=J $1=I $1=J", "$0=I", "$0=J", "$0=$1");
     }
@@ -858,6 +901,73 @@ public final class PromiseTests {
         due("ahead of CLOSING $1 is K<Run>", x.step(), -10);
     }
 
+    /** $0 is solved, and more is told then. */
+    private void afterMeet(int variables, String[] first, String... then) {
+        anew(variables, first);
+        due("step", x.step(), 1);
+        for (String bound : then) {
+            tape(bound).bound();
+        }
+        due("close", x.close(), InferResolve.OPEN);
+    }
+
+    private void stepOverMeets() {
+        promise = 13;
+        kinds("I;J;K<T>;N;A:I,J,N;B:I,J;C:J;D:I,K<N>;E:I,K<N>,J;F:N,K<A>;G:A,C;");
+        String[] meet = {"A:$0", "B:$0"};
+        afterMeet(2, meet, "$0:$1", "C:$1");
+        due("a MEET below", all(), "$0=I&J $0:$1 A:$0 A:$1 B:$0 B:$1 C:$1 I&J:$1");
+        due("step", x.step(), 2);
+        due("THE JOIN of I&J, A, B, C", solutionOf(1), "J");
+        afterMeet(2, meet, "$0:$1", "D:$1");
+        due("step", x.step(), 2);
+        due("THE JOIN of I&J, A, B, D", solutionOf(1), "I");
+        afterMeet(2, meet, "$1:$0", "$1:N");
+        due("a MEET above", all(), "$0=I&J $1:$0 $1:I&J $1:N A:$0 B:$0");
+        due("step", x.step(), 2);
+        due("THE MEETING of I&J and N", solutionOf(1), "I&J&N");
+        afterMeet(2, meet, "$1:$0", "$1:A");
+        due("step", x.step(), 2);
+        due("THE MEETING of I&J and A", solutionOf(1), "A");
+        afterMeet(2, meet, "$1:$0", "$1:C");
+        due("step", x.step(), 2);
+        due("THE MEETING of I&J and C", solutionOf(1), "I&C");
+        // the KIND with PARAMETERS is the second of the MEET, so its ANCESTORS are looked at one by one
+        String[] second = {"D:$0", "E:$0"};
+        afterMeet(3, second, "$1:$0", "$1:K<$2>");
+        due("I&K<N> and K<$2>", all(), "$0=I&K<N> $2=N $1:$0 $1:I&K<N> $1:K<$2> $1:K<N> D:$0 E:$0");
+        afterMeet(3, second, "$0:K<$2>");
+        due("I&K<N> below K<$2>", solutionOf(2), "N");
+        anew(2, second);
+        x.step();
+        tape("$0:K<I>").bound();
+        due("I&K<N> is not below K<I>", x.close(), InferResolve.FALSE);
+        String[] third = {"D:$0", "E:$0"};
+        anew(2, third);
+        x.step();
+        tape("F:$1").bound();
+        tape("$0:$1").bound();
+        due("the ANCESTORS of kind K differ", x.close(), InferResolve.OPEN);
+        due("NONE", x.step(), -11);
+        // what is BELOW all of a MEET is BELOW it, and nothing else
+        anew(1, meet);
+        x.step();
+        tape("G:$0").bound();
+        due("G is below I and J", x.close(), InferResolve.OPEN);
+        anew(1, meet);
+        x.step();
+        tape("C:$0").bound();
+        due("C is not below I", x.close(), InferResolve.FALSE);
+        // a MEET is the same as one with the same TYPES, and as nothing else
+        anew(2, "A:$0", "B:$0", "B:$1", "A:$1");
+        due("$0", x.step(), 1);
+        due("$1", x.step(), 2);
+        tape("K<$0>=K<$1>").bound();
+        due("I&J is I&J", x.close(), InferResolve.OPEN);
+        tape("$0=I").bound();
+        due("I&J is not I", x.close(), InferResolve.FALSE);
+    }
+
     private void solution() {
         promise = 14;
         due("none told", x.solution(0), InferResolve.NONE);
@@ -907,6 +1017,9 @@ public final class PromiseTests {
         String seven = "T<T<Run,Run,Run>,Run,Run>";
         due("22", joinOf("S<" + seven + ">,R<" + seven + ">"), "T<" + seven + "," + seven + "," + seven + ">");
         due("25", tape("S<" + eight + ">,R<" + eight + ">").join(), 0);
+        kinds("T<A,B,C>;P<A,B>;S<X>:T<X,X,P<X,Run>>;R<X>:T<X,X,P<X,Run>>;");
+        due("24", joinOf("S<" + seven + ">,R<" + seven + ">"), "T<" + seven + "," + seven + ",P<" + seven + ",Run>>");
+        due("27", tape("S<" + eight + ">,R<" + eight + ">").join(), 0);
         String longer = "T<" + eight + "," + eight + "," + eight + ">";
         due("all the same", joinOf(longer + "," + longer), longer);
         due("its ANCESTOR is itself, and too long", tape(longer + ",S<" + eight + ">").join(), 0);
