@@ -3,7 +3,8 @@ public final class PromiseTests {
     private static int wrong = 0;
     private static int promise = 0;
 
-    private InferResolve x = new InferResolve();
+    private Talk x = new Talk();
+    private String kindsText = "";
 
     public static void main(String[] args) {
         new PromiseTests().newObject();
@@ -52,14 +53,14 @@ public final class PromiseTests {
         }
     }
 
-    private InferResolve tape(String text) {
-        for (int i = 0; i < text.length(); i++) {
-            x.feed(text.charAt(i), 1);
-        }
-        return x;
+    private Talk tape(String text) {
+        return x.tape(text);
     }
 
+    /** A new object with these KINDS. */
     private void kinds(String text) {
+        x = new Talk();
+        kindsText = text;
         int count = 4;
         for (char c : text.toCharArray()) {
             count += c == ';' ? 1 : 0;
@@ -74,9 +75,10 @@ public final class PromiseTests {
         due("tape behind " + text, x.told(5), 0);
     }
 
-    /** New VARIABLES and BOUNDS. */
+    /** A new object with the latest KINDS, with VARIABLES and BOUNDS. */
     private void anew(int variables, String... bounds) {
-        x.fresh();
+        x = new Talk();
+        x.kinds(kindsText);
         for (int i = 0; i < variables; i++) {
             due("variable", x.variable(false), i);
         }
@@ -93,37 +95,23 @@ public final class PromiseTests {
     }
 
     private String latest(int length) {
-        StringBuilder b = new StringBuilder();
-        for (int i = 0; i < length; i++) {
-            b.append((char) x.letter(i));
-        }
-        return b.toString();
+        return x.latest(length);
     }
 
     private String all() {
-        StringBuilder b = new StringBuilder();
-        for (int k = 0; k < x.told(2); k++) {
-            b.append(k == 0 ? "" : " ").append(latest(x.written(k)));
-        }
-        return b.toString();
+        return x.all();
     }
 
     private String solutionOf(int variable) {
-        return latest(x.solution(variable));
+        return x.solutionOf(variable);
     }
 
     private boolean hasLetter(int i) {
-        try {
-            x.letter(i);
-            return true;
-        } catch (IndexOutOfBoundsException e) {
-            due("what letter throws", e.getClass(), IndexOutOfBoundsException.class);
-            return false;
-        }
+        return x.hasLetter(i);
     }
 
     private String joinOf(String text) {
-        return latest(tape(text).join());
+        return x.joinOf(text);
     }
 
     private void closed(int variables, int state, String bounds, String... told) {
@@ -322,11 +310,16 @@ public final class PromiseTests {
         due("B is still below A", tape("B:A").below(), 1);
         tape("A=B").bound();
         due("FALSE", x.told(3), InferResolve.FALSE);
-        kinds("C;");
+        due("another text", tape("C;").kinds(), 5);
         due("VARIABLES are gone", x.told(1), 0);
         due("BOUNDS are gone", x.told(2), 0);
         due("OPEN", x.told(3), InferResolve.OPEN);
         due("no ROUNDS", x.told(4), 0);
+        x.variable(true);
+        x.kinds();
+        x.variable(false);
+        x.step();
+        due("which THROWS is forgotten", solutionOf(0), "Object");
     }
 
     private void fault() {
@@ -384,6 +377,8 @@ public final class PromiseTests {
         due("ROUNDS", x.told(4), 1);
         due("one", x.fresh(), 1);
         due("no ROUNDS", x.told(4), 0);
+        x.variable(true);
+        x.fresh();
         x.variable(false);
         due("which THROWS is forgotten", x.step(), 1);
         due("Object", solutionOf(0), "Object");
@@ -542,7 +537,8 @@ public final class PromiseTests {
         due("FALSE", x.close(), InferResolve.FALSE);
         due("not OPEN", x.bound(), InferResolve.STATE);
         due("the tape stays", x.told(5), 5);
-        anew(2);
+        x.fresh();
+        x.variables(2);
         due("the text that stayed", x.bound(), 1);
     }
 
