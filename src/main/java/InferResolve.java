@@ -1273,7 +1273,8 @@ public final class InferResolve {
             int open = 1;
             int i = aAt;
             int j = bAt;
-            while (open > 0 && i < a.size() && j < b.size()) {
+            // each turn goes on in both by one number at least
+            for (int turn = 0; turn < a.size() && open > 0 && i < a.size() && j < b.size(); turn++) {
                 int s = a.get(i);
                 int t = b.get(j);
                 if (s == t && s < PARAMETER) {

@@ -24,6 +24,7 @@ public final class BoundaryTests extends Means {
         leastOfOneToken();
         toldAlready();
         sixteenKinds();
+        sixteenthKind();
         threeParameters();
         fourParents();
         withinFourOthers();
@@ -379,6 +380,22 @@ public final class BoundaryTests extends Means {
         joinRight(t, "W", "W");
         due("an empty text", t.kinds(""), 4);
         joinFault(t, "W", 0, 4);
+        // nor are those of the text before known within ARGUMENTS, nor those of one with a FAULT
+        Talk u = with("A;B;C<T>;D;");
+        due("a shorter text", u.kinds("L<E>;"), 5);
+        due("a longer one with a FAULT", u.kinds("L<E>;M;N<T>;O:X;"), -24);
+        for (String name : new String[] {"A", "B", "C", "D", "M", "N", "O", "E", "T"}) {
+            joinFault(u, "L<" + name + ">", 2, 4);
+            joinFault(u, "Run," + name, 4, 4);
+        }
+        joinRight(u, "L<Run>", "L<Run>");
+        sentence = "-10 less the place of the FAULT: all but the tape stays";
+        // the KINDS of the FAULTY text have other PARAMETERS and PARENTS at the same numbers
+        Talk v = with("I;L<E>;M<A>:L<A>,I;");
+        due("a text with a FAULT", v.kinds("L<X,Y>;M;I:M;I;"), -23);
+        due("below", v.below("M<Run>:L<Run>"), 1);
+        due("below", v.below("M<Run>:I"), 1);
+        joinRight(v, "M<Run>,L<Run>", "L<Run>");
     }
 
     private static void parametersAreKnown() {
@@ -572,6 +589,30 @@ public final class BoundaryTests extends Means {
         due("anew with sixteen", t.kinds(b.substring(0, place)), 20);
         due("anew with seventeen", t.kinds(b.toString()), -10 - place);
         due("told(0)", t.told(0), 20);
+    }
+
+    /** The KIND with the highest number is as good as any. */
+    private static void sixteenthKind() {
+        sentence = "5 the 17th KIND of a text (the 16th is told, and known)";
+        String kinds = "A;B;C;D;E;F;G;H;I;J;K;L;M;N<X>;O<X,Y>:N<Y>;P<X,Y,Z>:O<P<X,Y,Z>,X>,M;";
+        Talk t = with(kinds, 3);
+        due("told(0)", t.told(0), 20);
+        due("below", t.below("P<A,B,C>:O<P<A,B,C>,A>"), 1);
+        due("below", t.below("P<A,B,C>:O<P<A,C,B>,A>"), 0);
+        due("below", t.below("P<A,B,C>:N<A>"), 1);
+        due("below", t.below("P<A,B,C>:M"), 1);
+        joinRight(t, "P<P<A,B,C>,P<A,B,C>,A>", "P<P<A,B,C>,P<A,B,C>,A>");
+        joinRight(t, "P<A,B,C>,O<B,A>,N<A>", "N<A>");
+        joinRight(t, "P<A,B,C>,M", "M");
+        due("bound", t.bound("P<$0,B,C>:O<$1,$2>"), 2);
+        due("BOUNDS", t.all(), "$0=$2 $1=P<$0,B,C>");
+        Talk u = with(kinds, 1, "$0:P<A,B,C>", "$0:L", "$0:M");
+        due("step", u.step(), 1);
+        due("solution", u.solutionOf(0), "L&P<A,B,C>");
+        Talk v = with(kinds, 2, "P<A,$1,C>:$0", "$1=P<A,B,C>");
+        due("close", v.close(), OPEN);
+        due("step", v.step(), 1);
+        due("solution", v.solutionOf(0), "P<A,P<A,B,C>,C>");
     }
 
     private static void threeParameters() {

@@ -30,19 +30,23 @@ public final class CallBoundaryTests extends Means {
         stepNone();
         joinOfStep();
         meetingOfStep();
+        meetingOfAll();
         meetingIsNone();
         throwsOrNot();
         stepReduces();
         stepFails();
         stepFailsForAll();
+        stepsOneByOne();
         solutionRange();
         solutionOfSeveral();
         joinSevenTypes();
         joinIsLong();
         joinIsNone();
         joinLeastKinds();
+        joinOfMeets();
         belowPairs();
         textsChangeNothingElse();
+        usedAgain();
         lastCall();
         finish();
     }
@@ -597,6 +601,26 @@ public final class CallBoundaryTests extends Means {
         due("I once", t.solutionOf(1), "I&J&N");
     }
 
+    /** MEETS of as many TYPES as there can be. */
+    private static void meetingOfAll() {
+        sentence = "together a MEET likewise. TYPES of a MEET stand by their KINDS' numbers";
+        String kinds = "A;B;C;D;E;F;G;H;I;J;K;L;M;N;O;P;";
+        String meet = "";
+        for (int n = 1; n <= 17; n++) {
+            // told from the last to the first; Run is the 17th
+            Talk t = with(kinds, 1);
+            for (int k = n; k >= 1; k--) {
+                t.bound("$0:" + (k == 17 ? "Run" : kinds.substring(2 * k - 2, 2 * k - 1)));
+            }
+            meet = n == 1 ? "A" : n == 17 ? "Run&" + meet : meet + "&" + kinds.charAt(2 * n - 2);
+            // a MEET of 13 NAMES and itself are LONG
+            due("step of " + n, t.step(), n <= 12 ? 1 : -10);
+            due("solution of " + n, t.solutionOf(0), meet);
+            due("STATE of " + n, t.told(3), n <= 12 ? OPEN : FAILED);
+            due("BOUNDS of " + n, t.told(2), n + 1);
+        }
+    }
+
     private static void meetingIsNone() {
         sentence = "if two of these are of one KIND (ahead of CLOSING they may be), it is NONE";
         String kinds = "I;J;L<E>;M<E>:L<E>;N:L<J>;";
@@ -756,6 +780,24 @@ public final class CallBoundaryTests extends Means {
         due("step", w.step(), 0);
     }
 
+    private static void stepsOneByOne() {
+        sentence = "A STEP: the VARIABLES that it solves, as bits";
+        // one of two VARIABLES, then one of one whose TYPE is longer, then one of three
+        Talk t = with(SIZES, 2, "$0:$1", "$1:I");
+        due("close", t.close(), OPEN);
+        due("step", t.step(), 3);
+        t.variables(1).bounds("$2:P<I,L<J>>");
+        due("step", t.step(), 4);
+        due("solution", t.solutionOf(2), "P<I,L<J>>");
+        t.variables(3).bounds("$3:$4", "$5:$4", "$4:J");
+        due("close", t.close(), OPEN);
+        due("step", t.step(), 56);
+        due("told(6)", t.told(6), 6);
+        due("solution", t.solutionOf(0) + t.solutionOf(1) + t.solutionOf(3) + t.solutionOf(4) + t.solutionOf(5), "IIJJJ");
+        due("step", t.step(), 0);
+        due("STATE", t.told(3), OPEN);
+    }
+
     // ---------------------------------------------------------------- 14
 
     private static void solutionRange() {
@@ -872,6 +914,35 @@ public final class CallBoundaryTests extends Means {
         joinRight(t, "N<I>,J", "Object");
     }
 
+    private static void joinOfMeets() {
+        sentence = "ANCESTORS of a MEET are those of its TYPES";
+        // $0 is I&J from above, then A, which has more ANCESTORS, is below $1 as well
+        String kinds = "I;J;N;K<E>;A:I,J,N;C:J,N;D:K<N>,I;E:N,K<N>;";
+        String[] others = {"A", "C", "N", "Run"};
+        String[] joins = {"I&J", "J", "Object", "Object"};
+        for (int i = 0; i < others.length; i++) {
+            Talk t = with(kinds, 2, "$0:I", "$0:J");
+            due("step", t.step(), 1);
+            t.bounds("$0:$1", others[i] + ":$1");
+            due("close", t.close(), OPEN);
+            due("step", t.step(), 2);
+            due("THE JOIN of I&J and " + others[i], t.solutionOf(1), joins[i]);
+        }
+        // of I&K<N> and E each has an ANCESTOR K<N>
+        Talk u = with(kinds, 2, "$0:I", "$0:K<N>");
+        due("step", u.step(), 1);
+        u.bounds("$0:$1", "E:$1");
+        due("close", u.close(), OPEN);
+        due("step", u.step(), 2);
+        due("THE JOIN of I&K<N> and E", u.solutionOf(1), "K<N>");
+        Talk v = with(kinds, 2, "$0:I", "$0:K<I>");
+        due("step", v.step(), 1);
+        v.bounds("$0:$1", "E:$1");
+        due("close", v.close(), OPEN);
+        due("THE JOIN of I&K<I> and E is NONE", v.step(), -11);
+        due("told(6)", v.told(6), 1);
+    }
+
     private static void joinLeastKinds() {
         sentence = "the KINDS of which each of them has an ANCESTOR, but those that are a KIND of an ANCESTOR of another one";
         Talk t = with("I;J;K:I;A:K,J;B:J,K;C:I,J;D:I;");
@@ -890,6 +961,9 @@ public final class CallBoundaryTests extends Means {
         Talk u = with("Z;Y;X;W;A:W,X,Y,Z;B:Y,W,Z,X;");
         joinRight(u, "A,B", "Z&Y&X&W");
         joinRight(u, "B,A", "Z&Y&X&W");
+        Talk v = with("A;B;C;D;E;F;G;H;I:A,B,C,D;J:E,F,G,H;K:H,B,D,F;L:A,C,E,G;M:I,J;N:K,L;");
+        joinRight(v, "M,N", "A&B&C&D&E&F&G&H");
+        joinRight(v, "I,L", "A&C");
     }
 
     private static void belowPairs() {
@@ -939,6 +1013,66 @@ public final class CallBoundaryTests extends Means {
         faultStaysAlone(t -> t.variables(2).bounds("$0:Run"), "Run:Ran", Talk::below, 4, 4);
         faultStaysAlone(t -> t.variables(2).bounds("$0:Run"), "$0:Ran", Talk::bound, 3, 4);
         faultStaysAlone(t -> t.variables(2).bounds("$0:Run"), "Ran:$0;", Talk::kinds, 4, 2);
+    }
+
+    private static final String USED = SIZES + "A:I,J;B:J,I;";
+
+    /** Short lives of an object; each leaves it in another way. */
+    private static void live(int which, Talk t) {
+        switch (which) {
+            case 0 -> t.variables(2).bounds("A:$0", "$0:$1").close();
+            case 1 -> t.variables(6).bounds("$0=L<$1>", "$1=I", "I=J");
+            case 2 -> t.variables(1).bounds("$0=I", names(24) + "=$0");
+            case 3 -> t.variables(3).bounds("$2=I", "$1:L<I>", "$1:L<J>").step();
+            case 4 -> {
+                t.variables(2).bounds("A:$0", "B:$0", "$0:$1").close();
+                t.step();
+                t.step();
+            }
+            case 5 -> {
+                t.variable(true);
+                t.variable(true);
+                t.variables(2).bounds("$0:Throw", "$1:A", "$3=P<$0,$1>");
+                t.step();
+                t.step();
+                t.step();
+            }
+            case 6 -> t.variables(6).bounds("$0=$1", "$1=$2", "$2=$3", "$3=$4", "$4=$5", "I:$0", "J:$0", "Run:$0",
+                    "Throw:$0", "Except:$0", "Object:$0").close();
+            case 7 -> {
+                t.kinds("A;B<T>:A;C<T,U>:B<T>;D:C<D,D>,B<A>;");
+                t.variables(1).bounds("$0=" + names(13)).close();
+            }
+            default -> {
+                t.join(names(40) + "," + names(40));
+                t.variables(2).bounds("P<$0,$1>=P<F<I,I,I>,L<$0>>");
+                t.step();
+                t.close();
+            }
+        }
+    }
+
+    private static void usedAgain() {
+        sentence = "VARIABLES and BOUNDS are gone, the STATE is OPEN (and nothing of them comes back)";
+        for (int first = 0; first <= 8; first++) {
+            for (int second = 0; second <= 8; second++) {
+                for (int way = 0; way <= 1; way++) {
+                    Talk used = with(USED);
+                    live(first, used);
+                    if (way == 0) {
+                        used.fresh();
+                    } else {
+                        used.kinds(USED);
+                    }
+                    Talk fresh = with(USED);
+                    live(second, used);
+                    live(second, fresh);
+                    used.join("L<I>");
+                    fresh.join("L<I>");
+                    due("life " + second + " behind " + first, seen(used), seen(fresh));
+                }
+            }
+        }
     }
 
     private static void lastCall() {

@@ -939,6 +939,7 @@ public final class ModelTests {
         final int trueChance;
         final int pureChance;
         final int denseChance;
+        final int longChance;
         final int depthChance;
 
         Run(long seed) {
@@ -949,6 +950,7 @@ public final class ModelTests {
             depthChance = isRich ? 4 + one(6) : one(6);
             pureChance = one(3) == 0 ? one(80) : 0;
             denseChance = one(5) == 0 ? 60 + one(40) : 0;
+            longChance = isRich && one(2) == 0 ? 10 + one(60) : 0;
         }
 
         void check(String call, int got, int due) {
@@ -1195,7 +1197,8 @@ public final class ModelTests {
         }
 
         void bound() {
-            String text = one(100) < denseChance ? densePair() : one(100) < pureChance ? purePair()
+            String text = one(100) < longChance ? longPair()
+                    : one(100) < denseChance ? densePair() : one(100) < pureChance ? purePair()
                     : one(100) < trueChance ? truePair() : pair(one(2) == 0 ? "=" : ":", true);
             feedText(mutated(text));
             int due = model.bound();
@@ -1221,6 +1224,40 @@ public final class ModelTests {
             }
             b.append(count > 0 ? ">" : "");
             return one(4) == 0 ? b + ":" + s : s + ":" + b;
+        }
+
+        /** TYPES whose lengths are near to those that make something LONG. */
+        String longPair() {
+            int[] lengths = {6, 7, 8, 9, 10, 11, 11, 12, 12, 12, 13, 13, 22, 23, 23, 24, 24};
+            String t = sized(lengths[one(lengths.length)], one(3) == 0);
+            String s = "$" + one(Math.max(1, model.variables.size()));
+            if (one(6) == 0) {
+                s = one(2) == 0 ? t : sized(8 + one(6), true);
+            }
+            return one(4) == 0 ? s + "=" + t : one(2) == 0 ? s + ":" + t : t + ":" + s;
+        }
+
+        /** A TYPE of about so many NAMES. */
+        String sized(int length, boolean hasVariables) {
+            if (length <= 1) {
+                return type(0, hasVariables, 40);
+            }
+            int k = 4 + one(Math.max(1, model.kinds.size() - 4));
+            for (int i = 0; i < 20 && (k >= model.kinds.size() || model.kinds.get(k).parameters.isEmpty()); i++) {
+                k = one(model.kinds.size());
+            }
+            int count = k < model.kinds.size() ? model.kinds.get(k).parameters.size() : 0;
+            if (count == 0) {
+                return "Run";
+            }
+            StringBuilder b = new StringBuilder(model.kinds.get(k).name);
+            int left = length - 1;
+            for (int a = 0; a < count; a++) {
+                int share = a == count - 1 ? left : Math.max(1, left / (count - a));
+                b.append(a == 0 ? "<" : ",").append(sized(share, hasVariables));
+                left -= share;
+            }
+            return b.append('>').toString();
         }
 
         /** Two VARIABLES, or a VARIABLE and a TYPE above or below it. */
