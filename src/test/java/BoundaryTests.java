@@ -32,6 +32,7 @@ public final class BoundaryTests extends Means {
         metAtTheSemicolon();
         twoAncestorsOfOneKind();
         boundsThatSayNothing();
+        boundsWithoutMeets();
         boundsThatAreOne();
         reduceEqualLong();
         reduceBelowLong();
@@ -794,6 +795,20 @@ public final class BoundaryTests extends Means {
         due("close", u.close(), OPEN);
         due("$0 : $0 does not come", u.all(), "$0:$1 $1:$0");
         due("ROUNDS", u.told(4), 1);
+    }
+
+    private static void boundsWithoutMeets() {
+        sentence = "In texts of bounds TYPES are as above (with VARIABLES, without MEETS; a NAME is a KIND's)";
+        Talk t = with("I;J;L<E>;", 2);
+        boundFault(t, "$0=I&J", 4, 1);
+        boundFault(t, "I&J:$0", 1, 1);
+        boundFault(t, "$0=L<I&J>", 6, 1);
+        boundFault(t, "$0=E", 3, 4);
+        boundFault(t, "$0=L<E>", 5, 4);
+        boundFault(t, "$0=$1<I>", 5, 2);
+        due("bound", t.bound("L<$0>=L<$1>"), 1);
+        due("bound", t.bound("L<$0>:$1"), 2);
+        due("BOUNDS", t.all(), "$0=$1 L<$0>:$1");
     }
 
     private static void boundsThatAreOne() {

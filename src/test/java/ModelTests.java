@@ -1316,7 +1316,24 @@ public final class ModelTests {
 
         // ---- texts
 
+        /** Tokens, and what is none, in any order. */
+        String soup() {
+            String[] tokens = {"<", "<", ">", ">", ",", ",", ";", ";", ":", ":", "=", " ", "$0", "$1", "$5", "$6", "$",
+                "A", "B", "T", "U", "Run", "Object", "Throw", "Abcdefgh", "Abcdefghi", "a", "9", "&", "\u0000", "\u00ff"};
+            int kindsKnown = model.kinds.size();
+            StringBuilder b = new StringBuilder();
+            int count = one(one(20) == 0 ? 300 : 12);
+            int fine = one(3) == 0 ? tokens.length : tokens.length - 6;
+            for (int i = 0; i < count && b.length() < 590; i++) {
+                b.append(one(4) == 0 ? model.kinds.get(one(kindsKnown)).name : tokens[one(fine)]);
+            }
+            return b.toString();
+        }
+
         String mutated(String text) {
+            if (one(60) == 0) {
+                return soup();
+            }
             if (one(12) != 0) {
                 return text;
             }
