@@ -1270,15 +1270,14 @@ public final class InferResolve {
 
         /** As long as the KINDS are the same, their ARGUMENTS lie next in both. */
         private void walkBoth(Row a, int aAt, Row b, int bAt) {
-            int open = 1;
+            int end = kinds.over(a, aAt);
             int i = aAt;
             int j = bAt;
             // each turn goes on in both by one number at least
-            for (int turn = 0; turn < a.size() && open > 0 && i < a.size() && j < b.size(); turn++) {
+            for (int turn = aAt; turn < end && i < end; turn++) {
                 int s = a.get(i);
                 int t = b.get(j);
                 if (s == t && s < PARAMETER) {
-                    open += kinds.partsOf(s) - 1;
                     i++;
                     j++;
                     continue;
@@ -1292,7 +1291,6 @@ public final class InferResolve {
                 }
                 i = iOver;
                 j = jOver;
-                open--;
             }
         }
 
